@@ -96,7 +96,19 @@ public final class PromisesTest {
     due(x.slateIs(1, 7), 2);
     due(x.slateIs(1, 10), BEYOND, x.slateIs(1, -1), BEYOND, x.slateIs(2, 0), BEYOND, x.slateIs(-1, 0), BEYOND);
     due(x.slateIs(MOST, 0), BEYOND, x.slateIs(2, 10), BEYOND, x.told(1), 6);
+    text(x, 0, "h+g");
+    due(x.slateIs(1, 9), 18);
     broadAndHolds();
+    ageByFive();
+  }
+
+  private static void ageByFive() {
+    SlateKin x = new SlateKin();
+    x.slate(21, 1, 0, -1);
+    x.slate(51, 1, 0, -1);
+    x.years(4);
+    due(x.slateIs(0, 9), 1, x.slateIs(1, 9), 1, x.years(1), 5 * 48, x.slateIs(0, 9), 2, x.slateIs(1, 9), 3);
+    due(x.years(4), 9 * 48, x.slateIs(0, 9), 2, x.slateIs(1, 9), 3);
   }
 
   private static void broadAndHolds() {
@@ -264,6 +276,18 @@ public final class PromisesTest {
     text(y, 0, "g-(g>8)");
     due(y.gale(8), 0, y.gale(9), 7);
     sameRowDoesNotKeep();
+    twoOfARowKeep();
+  }
+
+  private static void twoOfARowKeep() {
+    SlateKin x = with(4, 0);
+    x.nail(0, 9);
+    x.nail(1, 9);
+    x.lay(0, 2, 2);
+    x.lay(1, 2, 3);
+    x.lay(2, 3, 2);
+    x.lay(3, 3, 3);
+    due(x.gale(9), 0, x.fast(28, 1), 3, x.over(34, 1), 5, x.over(35, 1), 10, x.gale(28), 15);
   }
 
   private static void sameRowDoesNotKeep() {
@@ -299,7 +323,8 @@ public final class PromisesTest {
     due(x.years(60), 99999, x.count(1), 82);
     for (int i = 0; i < 165; i++) x.years(60);
     due(x.count(1), 9982, x.slateIs(0, 7), 999, x.years(18), STATE, x.loose(18), STATE, x.years(61), BEYOND);
-    due(x.count(1), 9982, x.years(16), 99999, x.loose(2), STATE, x.loose(21), BEYOND, x.years(1), 99999);
+    due(x.count(1), 9982, x.years(16), 99999, x.count(1), 9998, x.loose(2), STATE, x.loose(21), BEYOND);
+    x.loose(1);
     due(x.count(1), 9999, x.years(1), STATE, x.loose(1), STATE, x.count(1), 9999, x.told(3), 5);
   }
 
@@ -315,6 +340,7 @@ public final class PromisesTest {
     due(x.loose(1), g > 6 ? 1 : 0);
     due(x.loose(0), BEYOND, x.loose(21), BEYOND, x.loose(-1), BEYOND, x.count(1), 5);
     allThatWasLifted();
+    yearByYear();
   }
 
   private static int draws(int z, int many) {
@@ -330,6 +356,25 @@ public final class PromisesTest {
     for (int i = 0; i < 20; i++) all |= y.loose(1);
     due(x.loose(20), all, x.count(7), y.count(7), x.dry(0), y.dry(0), x.count(3), y.count(3));
     due(Integer.bitCount(all) > 3 ? 1 : 0, 1);
+  }
+
+  /** A year by draws, told by the other calls. */
+  private static void yearByYear() {
+    SlateKin x = with(4, 3);
+    SlateKin y = with(4, 3);
+    x.become(2, 40);
+    y.become(2, 40);
+    for (int i = 0; i < 80; i++) {
+      int z = y.count(7);
+      int gone = y.gale((draws(z, 1) >>> 8) % 40);
+      int slate = (draws(z, 2) >>> 8) % 4;
+      int cell = (draws(z, 3) >>> 8) % 48;
+      if (y.slateIs(slate, 5) < 0) y.lay(slate, cell / 8, cell % 8);
+      y.seed(draws(z, 3));
+      y.years(1);
+      due(x.loose(1), gone, x.dry(0), y.dry(0), x.count(3), y.count(3), x.count(7), y.count(7));
+      if (i % 5 == 0) due(x.nail(slate, i / 10), y.nail(slate, i / 10));
+    }
   }
 
   private static void seed() {
@@ -411,6 +456,10 @@ public final class PromisesTest {
     x.lay(1, 1, 1);
     due(x.best(0, 0), 3, x.best(0, 1), 8);
     due(x.best(2, 0), BEYOND, x.best(-1, 0), BEYOND, x.best(0, 2), BEYOND, x.best(0, -1), BEYOND, x.told(2), 0);
+    SlateKin w = with(3, 0);
+    w.lay(1, 0, 0);
+    w.lay(2, 0, 1);
+    due(w.best(1, 0), 0, w.best(1, 1), 4, w.best(2, 0), 1, w.best(2, 1), 4, w.best(0, 0), 2, w.best(0, 1), 6);
     SlateKin y = new SlateKin();
     y.slate(0, 1, 0, -1);
     y.slate(0, 1, 0, 0);
@@ -592,8 +641,13 @@ public final class PromisesTest {
     x.lay(2, 0, 0);
     due(x.judge(0), 0, x.put(0, 0, 47), 1, x.judge(0), 1, x.put(0, 1, -1), 1, x.judge(0), 3, x.put(0, 0, 46), 1);
     due(x.judge(0), 0, x.judge(1), NONE, x.judge(4), BEYOND, x.judge(-1), BEYOND, x.slateIs(0, 6), 7);
-    x.sheet(0, 8, 1);
-    due(x.put(0, 0, 47), 1, x.judge(0), 1);
+    x.lay(1, 0, 2);
+    x.lay(2, 0, 0);
+    x.sheet(0, 8, 2);
+    due(x.put(0, 0, 47), 1, x.put(0, 1, 2), 1, x.judge(0), 2);
+    x.sheet(1, 16, 24);
+    for (int i = 0; i < 24; i++) x.put(1, i, -1);
+    due(x.lift(0), 4, x.lift(1), 2, x.judge(1), 2, x.gale(1), 4, x.judge(1), 3);
   }
 
   private static void image() {
@@ -690,7 +744,32 @@ public final class PromisesTest {
     for (int i = 0; i < 6; i++) x.voice(0, 3, 1);
     for (int k = 1; k <= 6; k++) due(x.told(k), k);
     due(x.told(0), BEYOND, x.told(7), BEYOND, x.told(-1), BEYOND, x.told(LEAST), BEYOND, x.told(1), 5);
+    everyErrorIsCounted();
     due(x.dry(7), BEYOND, x.told(1), 6, x.image(), 1, x.restore(), 0, x.told(1), 6, x.text(0), -10, x.told(1), 6);
+  }
+
+  private static void everyErrorIsCounted() {
+    SlateKin x = with(10, 0);
+    x.sheet(1, 8, 1);
+    x.sheet(2, 16, 1);
+    int[] beyond = {x.slate(70, 1, 0, -1), x.slateIs(10, 0), x.slateIs(0, 10), x.become(10, 0), x.as(10, 0),
+        x.lay(10, 0, 0), x.lift(10), x.nail(10, 0), x.sells(2), x.feed(0, 0), x.text(2), x.untell(2), x.law(2, 0, 0, 0),
+        x.gale(41), x.years(0), x.loose(0), (int) x.dry(3), x.over(48, 0), x.lifts(41, 0), x.fast(41, 0), x.best(10, 0),
+        x.odds(48, 0), x.fits(4, 0), x.voice(10, 0, 0), x.sheet(4, 8, 1), x.sheet(0, 8, 25), x.put(4, 0, 0),
+        x.put(1, 1, 0), x.move(4, 0, 0, 0, 0), x.move(1, 0, 1, 0, 2), x.nailed(4), x.judge(4), x.count(8), x.told(0)};
+    due(x.told(1), beyond.length);
+    for (int answer : beyond) due(answer, BEYOND);
+    int[] none = {x.restore(), x.body(0), x.fits(0, 0), x.put(0, 0, 0), x.move(0, 0, 1, 0, 0), x.nailed(0), x.judge(0)};
+    due(x.told(2), none.length, x.put(1, 0, 9), 1, x.fits(1, 1), NONE, x.told(2), none.length + 1);
+    for (int answer : none) due(answer, NONE);
+    due(x.lift(0), STATE, x.sheet(0, 8, -1), STATE, x.told(3), 2, x.lay(0, 0, 0), 2, x.lay(1, 0, 0), STATE);
+    due(x.told(3), 3, x.slate(0, 1, 0, -1), FULL, x.told(4), 1, x.as(0, 1), KIND, x.move(1, 0, 2, 0, 0), KIND);
+    due(x.told(5), 2, x.voice(0, 3, 0), PARTED, x.told(6), 1, x.told(1), beyond.length, x.told(2), none.length + 1);
+    for (int i = 0; i < 9; i++) x.feed(0, 8);
+    due(x.told(4), 3);
+    for (int i = 0; i < 10; i++) x.lay(i, i / 4 * 2, i % 4 * 2);
+    for (int i = 0; i < 10; i++) x.become(i, 10);
+    due(x.dry(2), 36, x.told(2), none.length + 1);
   }
 
   public static void main(String[] args) {
