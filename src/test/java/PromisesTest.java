@@ -277,6 +277,15 @@ public final class PromisesTest {
     due(y.gale(8), 0, y.gale(9), 7);
     sameRowDoesNotKeep();
     twoOfARowKeep();
+    tenSlates();
+  }
+
+  private static void tenSlates() {
+    SlateKin x = with(10, 0);
+    for (int i = 0; i < 10; i++) x.lay(i, i < 5 ? 0 : 1, i % 5);
+    due(x.dry(1), 15, x.rings(), 8, x.over(12, 0), 16 + 512, x.over(20, 1), 16 + 512, x.fast(1, 1), 31);
+    due(x.lifts(1, 0), 1023, x.best(9, 0), 5, x.odds(20, 0), 1, x.odds(20, 1), 40, x.nail(4, 9), 0);
+    due(x.lifts(27, 0), 1023 - 16 - 512, x.years(1), 33, x.gale(1), 1023 - 16 - 512, x.loose(1), 0);
   }
 
   private static void twoOfARowKeep() {
@@ -326,6 +335,9 @@ public final class PromisesTest {
     due(x.count(1), 9982, x.years(16), 99999, x.count(1), 9998, x.loose(2), STATE, x.loose(21), BEYOND);
     x.loose(1);
     due(x.count(1), 9999, x.years(1), STATE, x.loose(1), STATE, x.count(1), 9999, x.told(3), 5);
+    SlateKin y = new SlateKin();
+    for (int i = 0; i < 166; i++) y.years(60);
+    due(y.count(1), 9960, y.years(40), STATE, y.years(39), 99999, y.count(1), 9999);
   }
 
   private static void loose() {
@@ -715,6 +727,8 @@ public final class PromisesTest {
     due(x.tell(4), 1, x.tell(4), 2, x.tell(4), 3, x.check(), 0, x.tell(4), 1, x.tell(3), 2, x.tell(3), 3, x.check(), 2);
     due(x.count(5), 0, x.tell(5), 1, x.check(), 1, x.check(), 0);
     due(x.tell(4), 1, x.tell(4), 2, x.tell(4), 3, x.tell(4), 4, x.check(), 4, x.slateIs(0, 7), 4);
+    SlateKin y = new SlateKin();
+    due(y.tell(0), 1, y.check(), 1, y.slate(0, 1, 0, -1), 0, y.tell(0), 1, y.tell(0), 2, y.check(), 2);
   }
 
   private static void count() {
