@@ -376,7 +376,7 @@ public final class PromisesTest {
     SlateKin y = with(4, 3);
     x.become(2, 40);
     y.become(2, 40);
-    for (int i = 0; i < 80; i++) {
+    for (int i = 0; i < 50; i++) {
       int z = y.count(7);
       int gone = y.gale((draws(z, 1) >>> 8) % 40);
       int slate = (draws(z, 2) >>> 8) % 4;

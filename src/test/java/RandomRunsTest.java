@@ -258,7 +258,7 @@ public final class RandomRunsTest {
     int runs = args.length > 0 ? Integer.parseInt(args[0]) : 600;
     int bad = 0;
     for (int i = 0; i < runs && bad < 3; i++) {
-      if (!new RandomRunsTest(1000L + i).run(390)) {
+      if (!new RandomRunsTest(1000L + i).run(340)) {
         System.out.println("run " + i + " is wrong");
         bad++;
       }
