@@ -1,5 +1,3 @@
-import java.util.ArrayList;
-import java.util.List;
 import java.util.Random;
 
 /** Long runs of drawn calls: every answer of the program against that of NaiveKin. */
@@ -13,73 +11,15 @@ public final class RandomRunsTest {
   };
 
   private final Random random;
-  private final SlateKin kin = new SlateKin();
-  private final NaiveKin naive = new NaiveKin();
-  private final List<String> log = new ArrayList<>();
-  private boolean wrong = false;
+  private final Twins twins = new Twins();
+  private final NaiveKin naive = twins.naive;
 
   private RandomRunsTest(long seed) {
     random = new Random(seed);
   }
 
   private long due(String name, long... a) {
-    long want = naive.call(name, a);
-    long got = said(name, a);
-    StringBuilder row = new StringBuilder(name).append('(');
-    for (int i = 0; i < a.length; i++) row.append(i == 0 ? "" : ", ").append(a[i]);
-    row.append(") answered ").append(got);
-    log.add(row.toString());
-    if (got != want && !wrong) {
-      wrong = true;
-      for (int i = Math.max(0, log.size() - 600); i < log.size(); i++) System.out.println("  " + log.get(i));
-      System.out.println("due is " + want);
-    }
-    return got;
-  }
-
-  private long said(String name, long[] l) {
-    int[] a = new int[5];
-    for (int i = 0; i < l.length; i++) a[i] = (int) l[i];
-    switch (name) {
-      case "slate": return kin.slate(a[0], a[1], a[2], a[3]);
-      case "slateIs": return kin.slateIs(a[0], a[1]);
-      case "become": return kin.become(a[0], a[1]);
-      case "as": return kin.as(a[0], a[1]);
-      case "lay": return kin.lay(a[0], a[1], a[2]);
-      case "lift": return kin.lift(a[0]);
-      case "nail": return kin.nail(a[0], a[1]);
-      case "sells": return kin.sells(a[0]);
-      case "feed": return kin.feed(l[0], a[1]);
-      case "text": return kin.text(a[0]);
-      case "untell": return kin.untell(a[0]);
-      case "law": return kin.law(a[0], a[1], a[2], a[3]);
-      case "gale": return kin.gale(a[0]);
-      case "years": return kin.years(a[0]);
-      case "loose": return kin.loose(a[0]);
-      case "seed": return kin.seed(a[0]);
-      case "dry": return kin.dry(a[0]);
-      case "over": return kin.over(a[0], a[1]);
-      case "lifts": return kin.lifts(a[0], a[1]);
-      case "fast": return kin.fast(a[0], a[1]);
-      case "best": return kin.best(a[0], a[1]);
-      case "rings": return kin.rings();
-      case "odds": return kin.odds(a[0], a[1]);
-      case "fits": return kin.fits(a[0], a[1]);
-      case "voice": return kin.voice(a[0], a[1], a[2]);
-      case "body": return kin.body(a[0]);
-      case "sheet": return kin.sheet(a[0], a[1], a[2]);
-      case "put": return kin.put(a[0], a[1], a[2]);
-      case "move": return kin.move(a[0], a[1], a[2], a[3], a[4]);
-      case "nailed": return kin.nailed(a[0]);
-      case "judge": return kin.judge(a[0]);
-      case "image": return kin.image();
-      case "restore": return kin.restore();
-      case "tell": return kin.tell(a[0]);
-      case "check": return kin.check();
-      case "count": return kin.count(a[0]);
-      case "told": return kin.told(a[0]);
-      default: throw new IllegalArgumentException(name);
-    }
+    return twins.due(name, a);
   }
 
   private int pick(int... of) {
@@ -247,11 +187,11 @@ public final class RandomRunsTest {
 
   private boolean run(int many) {
     if (random.nextInt(2) == 0) whole();
-    while (log.size() < many && !wrong) step();
+    while (twins.calls() < many && !twins.wrong) step();
     for (int i = 0; i < 10; i++) for (int what = 0; what < 10; what++) due("slateIs", i, what);
     for (int what = 0; what < 8; what++) due("count", what);
     for (int k = 1; k <= 6; k++) due("told", k);
-    return !wrong;
+    return !twins.wrong;
   }
 
   public static void main(String[] args) {
